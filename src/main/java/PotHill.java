@@ -1152,9 +1152,6 @@ public final class PotHill {
         void readWork(Tape tape, Plan plan) {
             size = 0;
             readSteps(tape, plan, 0);
-            if (tape.look() != NONE) {
-                tape.blame(CANT_STAND, tape.at);
-            }
         }
 
         private void readSteps(Tape tape, Plan plan, int open) {
@@ -1757,27 +1754,21 @@ public final class PotHill {
             }
         }
 
-        /** Rows are tried in their own order, so that the first one found is the first of all. */
+        /**
+         * Rows are tried in their own order, so that the first one found is the first of all. Nobody can come twice
+         * in one: that would hold a shorter ring, and those were looked for ahead of this.
+         */
         private boolean goesOn(int people, int many, int length) {
             int owing = owes[row[length - 1]];
             if (length >= many || length >= row.length) {
                 return (owing >> row[0] & 1) == 1;
             }
             for (int person = row[0] + 1; person < people; person++) {
-                if ((owing >> person & 1) == 1 && !isInRow(person, length)) {
+                if ((owing >> person & 1) == 1) {
                     row[length] = person;
                     if (goesOn(people, many, length + 1)) {
                         return true;
                     }
-                }
-            }
-            return false;
-        }
-
-        private boolean isInRow(int person, int length) {
-            for (int k = 0; k < length; k++) {
-                if (row[k] == person) {
-                    return true;
                 }
             }
             return false;

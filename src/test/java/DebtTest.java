@@ -55,6 +55,12 @@ public final class DebtTest {
         x = Check.on(FIVE + owes(3, 1, 1) + owes(1, 3, 1));
         Check.work(x, "pay 0;");
         Check.due("PAID breaks it", x.ring(0), -1);
+        x.undo();
+        Check.due("undone, it is whole", x.ring(1), 24);
+        Check.work(x, "give 0 0 0;give 1 1 4;");
+        Check.due("asked again, nothing of the old one is left", x.ring(1), -1);
+        Check.work(x, "give 1 1 0;give 0 0 0;");
+        Check.due("3 owes 0, and 0 owes 3", x.ring(1), 14);
         PotHill y = x;
         Check.none("ring(2)", () -> y.ring(2));
         Check.none("ring(-1)", () -> y.ring(-1));

@@ -25,6 +25,8 @@ public final class HalfTest {
         Check.due("a PLACE it has not: never", x.fits(), 12);
         Check.thumb(x, "3 0;");
         Check.due("nor 0 deep", x.fits(), 0);
+        Check.thumb(x, "0 4;");
+        Check.due("a wrong line of PLACE 0", x.fits(), 0);
         Check.thumb(x, "1 3;");
         Check.law(x, "half");
         Check.work(x, "year;");
@@ -50,6 +52,11 @@ public final class HalfTest {
         PotHill y = Check.on(TWO + "pot 0 1 1 1 1 2 3 end;pot 0 1 1 1 1 2 3 0 end;");
         Check.due("nothing felt is an answer, too, and not 0 deep", y.feel(0), 3);
         Check.due("two left", y.feel(1), 2);
+        PotHill z = Check.on(TWO + "pot 0 1 1 1 5 5 5 end;chips 20;");
+        Check.law(z, "half * place");
+        Check.work(z, "year;");
+        Check.due("its halves differ at PLACE 1", z.feel(0), 1);
+        Check.due("one left", z.feel(1), 1);
     }
 
     private static void forge() {
@@ -136,6 +143,9 @@ public final class HalfTest {
         Check.due("0, 1 and 3", x.holds(0, 0), 1 + 2 + 8);
         Check.due("both of pot 0", x.holds(0, 1), 1);
         Check.due("both of pot 2", x.holds(2, 1), 4);
+        Check.work(x, "give 1 0 0;");
+        Check.due("both of pots 0 and 1", x.holds(0, 1), 3);
+        x.undo();
         Check.work(x, "pay 2;");
         Check.due("PAID does not count", x.holds(2, 0), 0);
         Check.due("nor so", x.holds(2, 1), 0);
@@ -154,6 +164,9 @@ public final class HalfTest {
         Check.due("now PLACE 2 is least", x.deep(1, 0), 2);
         Check.due("and PLACE 0 deepest", x.deep(1, 1), 0);
         Check.due("half 0 is whole", x.deep(0, 1), 2);
+        PotHill y = Check.on(TWO + "pot 0 1 1 1 5 3 7 end;pot 0 1 1 1 5 5 4 5 3 6 end;");
+        Check.due("deeper by one", y.deep(2, 1), 5);
+        Check.due("the 5th of 6", y.deep(3, 0), 4);
         Check.noSuch("deep(2, 2)", () -> x.deep(2, 2));
         Check.noSuch("deep(-1, 0)", () -> x.deep(-1, 0));
         Check.none("deep(0, 2)", () -> x.deep(0, 2));

@@ -98,6 +98,8 @@ public final class TextTest {
         hillFault("x", -9, 0);
         hillFault(" persons 1;", -9, 1);
         hillFault("Person 1;", -9, 0);
+        hillFault("personz 1;", -9, 0);
+        hillFault("xerson 1;", -9, 0);
         hillFault("person", -9, 6);
         hillFault("person  ", -9, 8);
         hillFault("person ;", -9, 7);
@@ -193,6 +195,30 @@ public final class TextTest {
         Check.due("nothing to undo", x.undo(), -1);
         Check.due("third shard not thrown", x.pot(0, 7), -1);
         Check.due("depths as told", x.depth(0, 1, 2), 1);
+        Check.due("count(0)", x.count(0), 0);
+        Check.due("the first IMAGE", x.image(), 1);
+        nothingIsLeftOfOlderHills();
+    }
+
+    private static void nothingIsLeftOfOlderHills() {
+        PotHill x = new PotHill();
+        for (int k = 0; k < 3; k++) {
+            Check.hill(x, TWO + "pot 0 1 1 1 1 1 1 9 9 9 end;heap 3 9;chips 20;steep 9;");
+            Check.law(x, "age");
+            Check.work(x, "year;year;");
+        }
+        for (int k = 0; k < 3; k++) {
+            Check.due("pots", Check.hill(x, TWO + "pot 0 1 1 1 4 4 4 end;pot 0 1 1 1 4 4 4 0 0 4 end;chips 1;"), 2);
+            Check.due("told apart by PLACE 5, which pot 0 has not", x.tell(), 6);
+            Check.law(x, "age");
+            Check.work(x, "year;");
+            Check.due("held for 0 YEARS", x.depth(0, 0, 0), 4);
+            Check.due("pots", Check.hill(x, TWO + "pot 0 1 1 1 4 4 4 end;heap 0 2;"), 1);
+            Check.due("only told shards", x.told(7), 2);
+            Check.due("steep 2", x.tossed(0, 0), 1);
+            Check.law(x, "half");
+            Check.due("chips 2", x.lasts(0), 1);
+        }
     }
 
     private static void wears(String law, int want) {
@@ -260,6 +286,8 @@ public final class TextTest {
         lawFault("(((((( (1", -7, 7);
         lawFault("least[least[least[most[most[most[least[", -7, 33);
         lawFault("((((((least", -7, 6);
+        lawFault("most[1,((((((1))))))]", -7, 12);
+        lawFault("most[1,(((((1)))))", -9, 18);
         lawFault("((((((lease", -9, 6);
         Check.due("closed ones do not count", Check.law(new PotHill(), "(((1)))+(((1)))+((((((1))))))"), 1);
     }

@@ -72,6 +72,7 @@ public final class WorkTest {
     }
 
     private static void pays() {
+        secondPot();
         PotHill x = Check.on(THREE + "pot 0 1 20 7 5 6 7 end;");
         Check.due("all one has", Check.work(x, "pay 0;"), 1);
         Check.due("has(0)", x.has(0), 30);
@@ -85,6 +86,21 @@ public final class WorkTest {
         Check.due("both halves with one", Check.work(x, "give 0 1 0;pay 0;"), 2);
         Check.due("has(0) as it was", x.has(0), 10);
         Check.due("PAID", x.told(4), 1);
+    }
+
+    private static void secondPot() {
+        PotHill x = Check.on("person 0;person 20;person 5;person 7;pot 0 1 1 7 5 6 7 end;pot 2 3 4 7 5 6 7 end;"
+            + "pot 1 3 2 9 9 9 9 end;chips 20;");
+        Check.law(x, "half * 2");
+        Check.work(x, "year;give 2 0 0;pay 1;");
+        Check.due("half 0 of pot 1", x.pot(1, 4), 2);
+        Check.due("half 1 of pot 1", x.pot(1, 5), 3);
+        Check.due("half 0 of pot 2", x.pot(2, 4), 0);
+        Check.due("half 1 of pot 2", x.pot(2, 5), 3);
+        Check.due("6 apart", x.pot(2, 6), 6);
+        Check.due("has(0)", x.has(0), 0);
+        Check.due("has(2)", x.has(2), 9);
+        Check.due("has(3)", x.has(3), 3);
     }
 
     private static void payRefusals() {

@@ -145,6 +145,7 @@ public final class YearsTest {
         Check.due("the most", x.span(90, 20, 12, 30, 1, 1), most);
         Check.due("not all alike", fewest < most ? 1 : 0, 1);
         Check.due("one seed", x.span(95, 1, 12, 30, 0, 0), x.goats(95, 12, 30, 1));
+        Check.due("the most of none", x.span(95, 5, 0, 30, 1, 0), 0);
         Check.due("nothing kicked, all the same", x.span(90, 20, 0, 30, 2, 0), 20);
         int same = x.span(90, 20, 12, 30, 2, 0);
         int sum = 0;
