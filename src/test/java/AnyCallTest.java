@@ -16,7 +16,7 @@ public final class AnyCallTest {
     public static void main(String[] args) {
         Random random = new Random(3);
         for (int run = 0; run < 200; run++) {
-            PotHill x = run % 4 == 0 ? new PotHill() : Check.on(HILL);
+            PotHill x = run % 4 == 0 ? new PotHill() : Check.on(run % 4 == 1 ? FullTest.fullHill() : HILL);
             int[] refused = {0, 0, 0, 0};
             for (int k = 0; k < 200; k++) {
                 refused[Check.thrown(any(x, random))]++;
