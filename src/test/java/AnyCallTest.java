@@ -84,7 +84,7 @@ public final class AnyCallTest {
     }
 
     /** All that can be told of the hill as it is. */
-    private static String everything(PotHill x) {
+    static String everything(PotHill x) {
         StringBuilder all = new StringBuilder();
         for (int what = 0; what <= 9; what++) {
             all.append(x.told(what)).append(' ');
