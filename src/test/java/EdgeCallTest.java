@@ -145,9 +145,9 @@ public final class EdgeCallTest {
 
     /** "NoSuchElementException: no such PERSON, POT, half, PLACE (so below, ahead of others)". */
     private static void pairs(Kind kind) {
-        PotHill x = ready();
         for (int i = 0; i < kind.bounds.length; i++) {
             for (int j = i + 1; j < kind.bounds.length; j++) {
+                PotHill x = ready();
                 for (int one : outside(kind.bounds[i])) {
                     for (int other : outside(kind.bounds[j])) {
                         int[] a = least(kind);
@@ -371,7 +371,7 @@ public final class EdgeCallTest {
     private static void manyCalls() {
         PotHill x = Check.on(FullTest.fullHill());
         int slid = x.goats(7, 16, 100, 1);
-        for (int k = 0; k < 400; k++) {
+        for (int k = 0; k < 240; k++) {
             x.work(0);
             x.undo();
         }
