@@ -1,7 +1,10 @@
+import java.io.IOException;
 import java.lang.reflect.Constructor;
 import java.lang.reflect.Field;
 import java.lang.reflect.Method;
 import java.lang.reflect.Modifier;
+import java.nio.file.Files;
+import java.nio.file.Path;
 import java.util.Arrays;
 import java.util.Set;
 import java.util.TreeSet;
@@ -17,7 +20,7 @@ public final class FaceTest {
         + " int status(int); int struck(); int tell(); int thumb(int); int told(int); int tossed(int,int);"
         + " int undo(); int work(int); int would(int,int,int,int,int,int)";
 
-    public static void main(String[] args) {
+    public static void main(String[] args) throws IOException {
         Set<String> want = new TreeSet<>(Arrays.asList(FACE.split("; ")));
         Set<String> got = new TreeSet<>();
         Set<String> faceNames = new TreeSet<>();
@@ -41,7 +44,40 @@ public final class FaceTest {
         Check.due("constructors", made.length, 1);
         Check.due("final", Modifier.isFinal(PotHill.class.getModifiers()) ? 1 : 0, 1);
         Check.due("NONE", PotHill.NONE, -1);
+        asTheDocumentWritesIt();
         Check.end("FaceTest");
+    }
+
+    /** Each row of the document's face, with what it throws and in that order, is one of the class, and no other is. */
+    private static void asTheDocumentWritesIt() throws IOException {
+        String doc = Files.readString(Path.of("../shared/DOC.md"));
+        Set<String> want = new TreeSet<>();
+        for (String line : doc.substring(doc.indexOf("public final class PotHill"), doc.indexOf("## Terms")).split("\n")) {
+            if (line.matches("    public (int|boolean) .*;")) {
+                want.add(line.trim().replaceAll("\\b(int|boolean) [a-z]+(?=[,)])", "$1"));
+            }
+        }
+        Set<String> got = new TreeSet<>();
+        for (Method m : PotHill.class.getMethods()) {
+            if (m.getDeclaringClass() == PotHill.class) {
+                got.add(written(m));
+            }
+        }
+        Check.due("rows of the document's face", want.size(), 40);
+        for (String row : want) {
+            Check.due(row, got.contains(row) ? 1 : 0, 1);
+        }
+        Check.due("public methods", got.size(), want.size());
+    }
+
+    private static String written(Method m) {
+        StringBuilder row = new StringBuilder("public ").append(said(m).replace(",", ", "));
+        String between = " throws ";
+        for (Class<?> type : m.getExceptionTypes()) {
+            row.append(between).append(type.getSimpleName());
+            between = ", ";
+        }
+        return row.append(';').toString();
     }
 
     private static String said(Method m) {

@@ -1,4 +1,6 @@
 import java.io.IOException;
+import java.lang.reflect.Field;
+import java.lang.reflect.Modifier;
 import java.nio.file.Files;
 import java.nio.file.Path;
 import java.util.List;
@@ -35,6 +37,11 @@ public final class RulesTest {
         }
         Check.due("classes: at most some twelve", classes <= 12 ? 1 : 0, 1);
         imports(lines);
+        fields(PotHill.class);
+        for (Class<?> inside : PotHill.class.getDeclaredClasses()) {
+            Check.due(inside + " is static", Modifier.isStatic(inside.getModifiers()) ? 1 : 0, 1);
+            fields(inside);
+        }
         Check.end("RulesTest");
     }
 
@@ -46,5 +53,16 @@ public final class RulesTest {
                 Check.due(line, known ? 1 : 0, 1);
             }
         }
+    }
+
+    /** Rule 5: what is static is final; rule 11: some twenty fields. */
+    private static void fields(Class<?> one) {
+        int own = 0;
+        for (Field f : one.getDeclaredFields()) {
+            boolean isStatic = Modifier.isStatic(f.getModifiers());
+            Check.due(f + " is final, if static", !isStatic || Modifier.isFinal(f.getModifiers()) ? 1 : 0, 1);
+            own += isStatic ? 0 : 1;
+        }
+        Check.due(one + " has some twenty fields at most", own <= 20 ? 1 : 0, 1);
     }
 }
