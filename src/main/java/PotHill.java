@@ -1015,12 +1015,11 @@ public final class PotHill {
                 add(NUMBER, tape.number(0, 999));
             } else {
                 tape.takeWord();
-                readNamed(tape, open);
+                readNamed(tape, open, kindNamed(tape));
             }
         }
 
-        private void readNamed(Tape tape, int open) {
-            int named = kindNamed(tape);
+        private void readNamed(Tape tape, int open, int named) {
             if (named == UNKNOWN) {
                 tape.blame(CANT_STAND, tape.start);
             } else if (named < PLUS) {
